@@ -28,7 +28,7 @@ public final class Milletcourt {
     private static final int WEIGHT_TO_WIN = 4;
 
     private static final int SHARES = 0;
-    private static final int DIVORCES = 1;
+    private static final int DIVORCE_BY = 1;
     private static final int MOST_WIVES = 2;
     private static final int WIDOWS_PART = 3;
     private static final int TAKES_MIXED = 4;
@@ -217,7 +217,7 @@ public final class Milletcourt {
             asked.hasWifeAsked = true;
         }
         Law law = lawAt(courtOf(DIVORCE, asked.husband, asked.wife, today));
-        if (!endsByAsking(asked, byHusband, law.numberOn(DIVORCES, today))) {
+        if (!endsByAsking(asked, byHusband, law.numberOn(DIVORCE_BY, today))) {
             return false;
         }
         asked.status = DIVORCED;
@@ -438,7 +438,7 @@ public final class Milletcourt {
         return today;
     }
 
-    // ---- numbers that callers tell
+    // ---- what callers tell
 
     private static void needWithin(int number, int lowest, int highest) {
         if (number < lowest || number > highest) {
@@ -545,8 +545,7 @@ public final class Milletcourt {
 
     private void takeByTurning(Person turning, int faith) {
         Chronicle faiths = turning.faiths;
-        boolean isBack = faiths.hasOlder() && faiths.secondNewest() == faith;
-        if (isBack && today - faiths.newestDay() < DAYS_TO_UNDO) {
+        if (faiths.goesBackBy(faith) && today - faiths.newestDay() < DAYS_TO_UNDO) {
             faiths.dropNewest();
         } else {
             faiths.tell(today, faith);
@@ -722,7 +721,7 @@ public final class Milletcourt {
         int weightAgainst = 0;
         for (int i = 0; i < suit.witnesses.size(); i++) {
             Witness witness = suit.witnesses.get(i);
-            int weight = (heardWholly >> witness.person.faithNow() & 1) == 1 ? 2 : 1;
+            int weight = 1 + ((heardWholly >> witness.person.faithNow()) & 1);
             if (witness.isFor) {
                 weightFor += weight;
             } else {
@@ -760,12 +759,8 @@ public final class Milletcourt {
             return days[count - 1];
         }
 
-        boolean hasOlder() {
-            return count > 1;
-        }
-
-        int secondNewest() {
-            return count > 1 ? numbers[count - 2] : numbers[0];
+        boolean goesBackBy(int number) {
+            return count > 1 && numbers[count - 2] == number;
         }
 
         void dropNewest() {

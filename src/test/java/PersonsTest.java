@@ -13,9 +13,10 @@ public final class PersonsTest {
         recants();
         childrenFollow();
         childrenOfChildrenFollow();
+        othersChildrenStay();
         fatherlessFollowMother();
         undoing();
-        undoingAfterHundredDays();
+        undoingRightAhead();
         undoingTwice();
         undoingLeadsChildren();
         followersUndoNothing();
@@ -24,7 +25,7 @@ public final class PersonsTest {
         CHECK.end();
     }
 
-    /** Men 0 and women 1 of faith 0, men 2 and women 3 of faith 1, man 4 and 5 of faith 2; all grown. */
+    /** Man 0 and woman 1 of faith 0, man 2 and woman 3 of faith 1, men 4, 5 of faith 2, man 6 of 0; all grown. */
     private static Milletcourt grown() {
         Milletcourt x = Check.empire(3);
         for (int faith = 0; faith < 2; faith++) {
@@ -192,6 +193,8 @@ public final class PersonsTest {
         int ofDead = x.person(false, -1, 0, -1);
         int belowDead = x.person(false, ofDead, -1, -1);
         x.dies(ofDead);
+        int next = x.person(true, 1, 0, -1);
+        int belowNext = x.person(true, 1, next, -1);
         int stranger = Check.woman(x, 1);
         int withStranger = x.person(true, stranger, son, -1);
         Check.take(x, 0, 1, 2, 3);
@@ -201,6 +204,26 @@ public final class PersonsTest {
         CHECK.due("a dead child's child", 0, x.faith(belowDead, 5030));
         CHECK.due("a grandchild by another mother", 1, x.faith(withStranger, 5030));
         CHECK.due("the grandson before", 0, x.faith(grandson, 5029));
+        CHECK.due("a grandson right behind the son", 1, x.faith(belowNext, 5030));
+        Check.take(x, 6, 2, 4, 5);
+        CHECK.due("the son, when a stranger turns", 1, x.faith(son, 5060));
+    }
+
+    private static void othersChildrenStay() {
+        Milletcourt x = grown();
+        int ofFirst = x.person(true, 1, 0, -1);
+        int last = Check.man(x, 0);
+        Check.passDays(x, 5000);
+        int ofLast = x.person(true, 1, last, -1);
+        int ofGrown = x.person(true, 1, ofFirst, -1);
+        Check.take(x, last, 1, 2, 3);
+        CHECK.due("the child of who turns", 1, x.faith(ofLast, 10030));
+        Check.take(x, ofFirst, 2, 4, 5);
+        CHECK.due("its child", 2, x.faith(ofGrown, 10060));
+        CHECK.due("the child of who turned before", 1, x.faith(ofLast, 10060));
+        Check.take(x, 0, 1, 2, 3);
+        CHECK.due("a grown child", 2, x.faith(ofFirst, 10090));
+        CHECK.due("below a grown child", 2, x.faith(ofGrown, 10090));
     }
 
     private static void fatherlessFollowMother() {
@@ -221,24 +244,20 @@ public final class PersonsTest {
         Milletcourt x = grown();
         Check.take(x, 0, 1, 2, 3);
         x.pass(69);
-        x.recognise(0, true);
-        CHECK.due("the day 5099 less 30", 5129, x.turn(0, 0, 1, 6));
-        x.recant(0);
+        Check.take(x, 0, 0, 1, 6);
+        CHECK.due("99 days behind, as if never", 0, x.faith(0, 5030));
+        CHECK.due("on all days", 0, x.faith(0, 5128));
+        CHECK.due("now", 0, x.faith(0, 5129));
+        CHECK.due("the court between", 0, x.court(0, 0, 1, 5060));
         Milletcourt y = grown();
         Check.take(y, 0, 1, 2, 3);
-        y.pass(69);
+        y.pass(70);
         Check.take(y, 0, 0, 1, 6);
-        CHECK.due("as if never, between", 0, y.faith(0, 5060));
-        CHECK.due("as if never, at first", 0, y.faith(0, 5030));
-        CHECK.due("now", 0, y.faith(0, 5129));
-        CHECK.due("the court between", 0, y.court(0, 0, 1, 5060));
-        x.pass(1);
-        Check.take(x, 0, 0, 1, 6);
-        CHECK.due("a hundred days behind, between", 1, x.faith(0, 5129));
-        CHECK.due("a hundred days behind, now", 0, x.faith(0, 5130));
+        CHECK.due("100 days behind, between", 1, y.faith(0, 5129));
+        CHECK.due("100 days behind, now", 0, y.faith(0, 5130));
     }
 
-    private static void undoingAfterHundredDays() {
+    private static void undoingRightAhead() {
         Milletcourt x = grown();
         Check.take(x, 0, 1, 2, 3);
         Check.take(x, 0, 2, 4, 5);
