@@ -123,10 +123,14 @@ final class Check {
         try {
             return "the answer " + call.run();
         } catch (RuntimeException e) {
-            boolean isOfProgram = e.getStackTrace().length == 0
-                    || e.getStackTrace()[0].getClassName().startsWith("Milletcourt");
-            return isOfProgram ? e.getClass().getName() : e.getClass().getName() + " of the machine";
+            return e.getClass().getName() + (isOfTheMachine(e) ? " of the machine" : "");
         }
+    }
+
+    /** What does not begin in the class itself comes from the machine or its library, not from a throw of the class. */
+    static boolean isOfTheMachine(Throwable thrown) {
+        StackTraceElement[] trace = thrown.getStackTrace();
+        return trace.length > 0 && !trace[0].getClassName().startsWith("Milletcourt");
     }
 
     private static String text(Object answer) {

@@ -6,14 +6,10 @@ public final class CommunitiesTest {
         communities();
         recognitions();
         decrees();
-        decreeRanges();
-        decreeLimit();
         rules();
-        ruleLimit();
         laws();
         courts();
         courtsByDays();
-        courtErrors();
         CHECK.end();
     }
 
@@ -44,8 +40,6 @@ public final class CommunitiesTest {
         CHECK.due("the day 14", -1, x.court(2, man, man, 14));
         CHECK.due("the day 15", 1, x.court(2, man, man, 15));
         CHECK.due("the other community", true, x.recognise(0, true));
-        CHECK.noIndex("community -1", () -> x.recognise(-1, true));
-        CHECK.noIndex("community 2", () -> x.recognise(2, true));
     }
 
     private static void decrees() {
@@ -65,38 +59,6 @@ public final class CommunitiesTest {
         CHECK.due("another number", 63, x.law(-1, 6, 7));
     }
 
-    private static void decreeRanges() {
-        int[] lowest = {0, 0, 1, 0, 0, 0, 0};
-        int[] highest = {2, 3, 4, 100, 1, 1, 63};
-        for (int what = 0; what < 7; what++) {
-            int w = what;
-            Milletcourt x = Check.empire(1);
-            CHECK.noArgument("below the lowest of " + w, () -> x.decree(0, w, lowest[w] - 1));
-            CHECK.noArgument("above the highest of " + w, () -> x.decree(0, w, highest[w] + 1));
-            x.decree(0, w, lowest[w]);
-            CHECK.due("the lowest of " + w, lowest[w], x.decree(0, w, highest[w]));
-            CHECK.due("the highest of " + w, highest[w], x.law(0, w, 0));
-        }
-        Milletcourt x = Check.empire(1);
-        CHECK.noArgument("what -1", () -> x.decree(0, -1, 0));
-        CHECK.noArgument("what 7", () -> x.decree(0, 7, 0));
-        CHECK.noArgument("what far off", () -> x.decree(0, Integer.MIN_VALUE, 0));
-        CHECK.noIndex("community 1", () -> x.decree(1, 9, 0));
-        CHECK.noIndex("community -2", () -> x.decree(-2, 0, 0));
-    }
-
-    private static void decreeLimit() {
-        Milletcourt x = Check.empire(1);
-        for (int i = 0; i < 100; i++) {
-            CHECK.due("decree " + i, i == 0 ? 25 : i - 1, x.decree(0, 3, i));
-            CHECK.noArgument("a decree that does not count", () -> x.decree(0, 3, 101));
-        }
-        CHECK.noState("the 101st", () -> x.decree(-1, 0, 0));
-        CHECK.noArgument("the 101st, out of range", () -> x.decree(-1, 0, 3));
-        CHECK.noIndex("the 101st, of none", () -> x.decree(1, 0, 3));
-        CHECK.due("the last one", 99, x.law(0, 3, 0));
-    }
-
     private static void rules() {
         Milletcourt x = Check.empire(1);
         int[] atFirst = {0, 0, 0, 1};
@@ -106,20 +68,6 @@ public final class CommunitiesTest {
         }
         x.pass(1);
         CHECK.due("a day on", 2, x.rule(0, 1));
-        CHECK.noArgument("matter -1", () -> x.rule(-1, 0));
-        CHECK.noArgument("matter 4", () -> x.rule(4, 0));
-        CHECK.noArgument("rule -1", () -> x.rule(0, -1));
-        CHECK.noArgument("rule 4", () -> x.rule(0, 4));
-    }
-
-    private static void ruleLimit() {
-        Milletcourt x = new Milletcourt();
-        for (int i = 0; i < 40; i++) {
-            x.rule(i % 4, 3);
-            CHECK.noArgument("a rule that does not count", () -> x.rule(0, 4));
-        }
-        CHECK.noState("the 41st", () -> x.rule(0, 3));
-        CHECK.noArgument("the 41st, out of range", () -> x.rule(4, 3));
     }
 
     private static void laws() {
@@ -132,12 +80,6 @@ public final class CommunitiesTest {
         CHECK.due("mixed ones", 1, x.law(0, 4, 5));
         CHECK.due("no bar", 0, x.law(0, 5, 0));
         CHECK.due("all are heard", 63, x.law(0, 6, 0));
-        CHECK.noArgument("day -1", () -> x.law(0, 0, -1));
-        CHECK.noArgument("tomorrow", () -> x.law(0, 0, 6));
-        CHECK.noArgument("what -1", () -> x.law(0, -1, 5));
-        CHECK.noArgument("what 7", () -> x.law(0, 7, 5));
-        CHECK.noIndex("community 1", () -> x.law(1, 7, 9));
-        CHECK.noIndex("community -2", () -> x.law(-2, 0, 0));
     }
 
     private static void courts() {
@@ -176,23 +118,5 @@ public final class CommunitiesTest {
         CHECK.due("the rule of day 5030", -1, x.court(3, man, 1, 5030));
         CHECK.due("the faith of day 5029", 0, x.court(0, man, 1, 5029));
         CHECK.due("the faith of day 5030", 1, x.court(0, man, 1, 5030));
-    }
-
-    private static void courtErrors() {
-        Milletcourt x = Check.empire(1);
-        int old = Check.man(x, 0);
-        x.pass(7);
-        int young = Check.man(x, 0);
-        x.pass(1);
-        CHECK.due("the day on which both were born", 0, x.court(0, old, young, 7));
-        CHECK.due("of one alone", 0, x.court(0, old, old, 0));
-        CHECK.noArgument("ahead of a birth", () -> x.court(0, old, young, 6));
-        CHECK.noArgument("ahead of the other birth", () -> x.court(0, young, old, 6));
-        CHECK.noArgument("tomorrow", () -> x.court(0, old, old, 9));
-        CHECK.noArgument("day -1", () -> x.court(0, old, old, -1));
-        CHECK.noArgument("matter 4", () -> x.court(4, old, old, 1));
-        CHECK.noArgument("matter -1", () -> x.court(-1, old, old, 1));
-        CHECK.noIndex("person 2", () -> x.court(4, 2, old, 1));
-        CHECK.noIndex("person -1", () -> x.court(4, old, -1, 99));
     }
 }

@@ -4,7 +4,6 @@ public final class EstatesTest {
 
     public static void main(String[] args) {
         goods();
-        deathErrors();
         toTheCrown();
         dowersFirst();
         dowersBeyondGoods();
@@ -50,26 +49,10 @@ public final class EstatesTest {
         CHECK.due("a million", 1000001, x.goods(0, 1000000));
         x.goods(1, 7);
         CHECK.due("all", 1000008, x.all());
-        CHECK.noArgument("0 cents", () -> x.goods(0, 0));
-        CHECK.noArgument("1000001 cents", () -> x.goods(0, 1000001));
-        CHECK.noIndex("person 7", () -> x.goods(7, 0));
-        CHECK.noIndex("person -1", () -> x.goods(-1, 0));
-        x.dies(4);
-        CHECK.noState("a dead person", () -> x.goods(4, 1));
-        CHECK.noArgument("a dead person, 0 cents", () -> x.goods(4, 0));
         for (int i = 0; i < 300; i++) {
             x.goods(2, 1000000);
         }
         CHECK.due("very much", 300000000, x.ofPerson(2, 0));
-    }
-
-    private static void deathErrors() {
-        Milletcourt x = grown();
-        CHECK.noIndex("person 7", () -> x.dies(7));
-        CHECK.noIndex("person -1", () -> x.dies(-1));
-        CHECK.due("without goods", 0, x.dies(0));
-        CHECK.due("lives no more", 0, x.ofPerson(0, 1));
-        CHECK.noState("twice", () -> x.dies(0));
     }
 
     private static void toTheCrown() {

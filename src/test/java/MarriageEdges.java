@@ -323,6 +323,11 @@ final class MarriageEdges {
         check.due("she asks again", false, x.divorce(0, false));
         check.due("he asks", true, x.divorce(0, true));
         check.due("he alone", true, married(BY_HUSBAND).divorce(0, true));
+        Milletcourt y = married(BY_NEVER);
+        y.divorce(0, true);
+        y.decree(0, 1, BY_HUSBAND);
+        check.due("she asks, he only asked by another law", false, y.divorce(0, false));
+        check.due("he asks by this one", true, y.divorce(0, true));
     }
 
     private void divorceByEither() {

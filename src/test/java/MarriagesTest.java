@@ -4,21 +4,16 @@ public final class MarriagesTest {
 
     public static void main(String[] args) {
         marriages();
-        marriageErrors();
-        grownOnly();
         wives();
         husbands();
         mixedOnes();
         lawOfTheCourt();
-        marriageLimit();
         divorcesByBoth();
         divorcesByHusband();
         divorcesByEither();
         neverDivorced();
         lawOfTheDay();
         dowersAtDivorce();
-        divorceErrors();
-        questions();
         CHECK.end();
     }
 
@@ -43,33 +38,6 @@ public final class MarriagesTest {
         CHECK.due("the wife", 4, x.ofMarriage(1, 2));
         CHECK.due("the dower", 1000000, x.ofMarriage(1, 3));
         CHECK.due("the court", 0, x.ofMarriage(1, 4));
-    }
-
-    private static void marriageErrors() {
-        Milletcourt x = grown();
-        x.dies(2);
-        x.dies(5);
-        CHECK.noIndex("husband 8", () -> x.marry(8, 0, -1));
-        CHECK.noIndex("wife -1", () -> x.marry(3, -1, -1));
-        CHECK.noArgument("a woman as husband", () -> x.marry(3, 4, 0));
-        CHECK.noArgument("a man as wife", () -> x.marry(0, 1, 0));
-        CHECK.noArgument("one for both", () -> x.marry(0, 0, 0));
-        CHECK.noArgument("dower -1", () -> x.marry(2, 3, -1));
-        CHECK.noArgument("dower 1000001", () -> x.marry(2, 3, 1000001));
-        CHECK.noState("a dead husband", () -> x.marry(2, 3, 0));
-        CHECK.noState("a dead wife", () -> x.marry(0, 5, 0));
-        CHECK.due("the first number", 0, x.marry(0, 3, 0));
-    }
-
-    private static void grownOnly() {
-        Milletcourt x = grown();
-        int boy = Check.man(x, 0);
-        int girl = Check.woman(x, 0);
-        Check.passDays(x, 4999);
-        CHECK.noState("a boy", () -> x.marry(boy, 3, 0));
-        CHECK.noState("a girl", () -> x.marry(0, girl, 0));
-        x.pass(1);
-        CHECK.due("grown", 0, x.marry(boy, girl, 0));
     }
 
     private static void wives() {
@@ -129,17 +97,6 @@ public final class MarriagesTest {
         CHECK.due("the crown's court", -1, x.ofMarriage(2, 4));
         x.recognise(0, true);
         CHECK.due("as it was at the call", -1, x.ofMarriage(2, 4));
-    }
-
-    private static void marriageLimit() {
-        Milletcourt x = grown();
-        x.decree(0, 1, 1);
-        for (int i = 0; i < 30; i++) {
-            CHECK.due("marriage " + i, i, x.marry(0, 3, 0));
-            x.divorce(i, true);
-        }
-        CHECK.noState("the 31st", () -> x.marry(0, 3, 0));
-        CHECK.noArgument("the 31st, out of range", () -> x.marry(0, 3, -1));
     }
 
     private static void divorcesByBoth() {
@@ -224,32 +181,5 @@ public final class MarriagesTest {
         CHECK.due("the other wife has", 700, x.ofPerson(4, 0));
         CHECK.due("the rest is not owed", 0, x.ofMarriage(1, 3));
         CHECK.due("the treasury", 0, x.treasury());
-    }
-
-    private static void divorceErrors() {
-        Milletcourt x = grown();
-        CHECK.noIndex("marriage 0", () -> x.divorce(0, true));
-        x.decree(0, 1, 1);
-        x.decree(0, 2, 2);
-        x.marry(0, 3, 0);
-        x.marry(0, 4, 0);
-        CHECK.noIndex("marriage -1", () -> x.divorce(-1, true));
-        CHECK.noIndex("marriage 2", () -> x.divorce(2, true));
-        x.divorce(0, true);
-        CHECK.noState("divorced already", () -> x.divorce(0, true));
-        x.dies(0);
-        CHECK.noState("widowed already", () -> x.divorce(1, true));
-    }
-
-    private static void questions() {
-        Milletcourt x = grown();
-        CHECK.noIndex("marriage 0", () -> x.ofMarriage(0, 9));
-        x.marry(0, 3, 0);
-        CHECK.noIndex("marriage -1", () -> x.ofMarriage(-1, 0));
-        CHECK.noArgument("what -1", () -> x.ofMarriage(0, -1));
-        CHECK.noArgument("what 5", () -> x.ofMarriage(0, 5));
-        x.dies(3);
-        CHECK.due("widowed", Milletcourt.WIDOWED, x.ofMarriage(0, 0));
-        CHECK.due("the dead wife", 3, x.ofMarriage(0, 2));
     }
 }

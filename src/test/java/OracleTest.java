@@ -250,7 +250,8 @@ public final class OracleTest {
         try {
             return method.invoke(empire, arguments);
         } catch (InvocationTargetException e) {
-            return e.getCause().getClass();
+            boolean isOfTheMachine = empire instanceof Milletcourt && Check.isOfTheMachine(e.getCause());
+            return isOfTheMachine ? e.getCause() + " of the machine" : e.getCause().getClass();
         } catch (IllegalAccessException e) {
             return e.getClass();
         }

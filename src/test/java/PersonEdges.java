@@ -525,6 +525,9 @@ final class PersonEdges {
         for (int i = 0; i < 4; i++) {
             check.due("when the father turns, child " + i, dueByFather[i], x.faith(children[i], 5060));
         }
+        x.dies(1);
+        takesTwo(x, 2);
+        check.due("when the mother turns, of a dead father", 0, x.faith(ofOther, 5090));
     }
 
     private void childrenOfChildren() {

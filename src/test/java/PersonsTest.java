@@ -4,10 +4,7 @@ public final class PersonsTest {
 
     public static void main(String[] args) {
         births();
-        birthErrors();
-        birthLimit();
         turns();
-        turnErrors();
         witnessesOfTurns();
         deathEndsTurning();
         recants();
@@ -21,7 +18,6 @@ public final class PersonsTest {
         undoingLeadsChildren();
         followersUndoNothing();
         undoingOfWhatWasFollowed();
-        faithErrors();
         CHECK.end();
     }
 
@@ -54,32 +50,6 @@ public final class PersonsTest {
         CHECK.due("without goods", 0, x.ofPerson(7, 0));
     }
 
-    private static void birthErrors() {
-        Milletcourt x = Check.empire(1);
-        int man = Check.man(x, 0);
-        int woman = Check.woman(x, 0);
-        CHECK.noIndex("mother 2", () -> x.person(true, 2, man, 0));
-        CHECK.noIndex("father -2", () -> x.person(true, man, -2, 0));
-        CHECK.noIndex("faith 1", () -> x.person(true, man, woman, 1));
-        CHECK.noIndex("faith -2", () -> x.person(true, -1, -1, -2));
-        CHECK.noArgument("a man as the mother", () -> x.person(true, man, -1, -1));
-        CHECK.noArgument("a woman as the father", () -> x.person(true, -1, woman, -1));
-        CHECK.noArgument("a faith beside a mother", () -> x.person(true, woman, -1, 0));
-        CHECK.noArgument("a faith beside a father", () -> x.person(true, -1, man, 0));
-        CHECK.noArgument("no faith", () -> x.person(true, -1, -1, -1));
-        CHECK.due("the next number", 2, x.person(true, woman, man, -1));
-    }
-
-    private static void birthLimit() {
-        Milletcourt x = Check.empire(1);
-        for (int i = 0; i < 40; i++) {
-            CHECK.due("person " + i, i, Check.man(x, 0));
-        }
-        CHECK.noState("the 41st", () -> Check.man(x, 0));
-        CHECK.noArgument("the 41st, without a faith", () -> Check.man(x, -1));
-        CHECK.noIndex("the 41st, of no community", () -> Check.man(x, 1));
-    }
-
     private static void turns() {
         Milletcourt x = grown();
         CHECK.due("the day", 5030, x.turn(0, 1, 2, 3));
@@ -95,30 +65,6 @@ public final class PersonsTest {
         CHECK.due("turning no more", -1, x.ofPerson(0, 3));
         CHECK.due("at first", 0, x.faith(0, 0));
         CHECK.due("to a third faith", 5062, x.turn(0, 2, 4, 5));
-    }
-
-    private static void turnErrors() {
-        Milletcourt x = grown();
-        int child = Check.man(x, 0);
-        int childOfThem = Check.man(x, 1);
-        CHECK.noIndex("person 9", () -> x.turn(9, 1, 2, 2));
-        CHECK.noIndex("community 3", () -> x.turn(0, 3, 2, 2));
-        CHECK.noIndex("community NONE", () -> x.turn(0, -1, 2, 3));
-        CHECK.noIndex("witness -1", () -> x.turn(0, 1, -1, 3));
-        CHECK.noIndex("witness 9", () -> x.turn(0, 1, 2, 9));
-        CHECK.noArgument("witnesses that are the same", () -> x.turn(child, 1, 2, 2));
-        CHECK.noArgument("itself as the first witness", () -> x.turn(0, 1, 0, 3));
-        CHECK.noArgument("itself as the second one", () -> x.turn(0, 1, 3, 0));
-        CHECK.noState("a minor", () -> x.turn(child, 1, 2, 3));
-        CHECK.noState("the faith that it has", () -> x.turn(0, 0, 1, 6));
-        CHECK.noState("a witness who is a minor", () -> x.turn(0, 1, 2, childOfThem));
-        CHECK.noState("a first witness of another faith", () -> x.turn(0, 1, 4, 3));
-        CHECK.noState("a second witness of another faith", () -> x.turn(0, 1, 3, 4));
-        x.turn(0, 1, 2, 3);
-        CHECK.noState("turning already", () -> x.turn(0, 2, 4, 5));
-        x.dies(1);
-        CHECK.noState("who does not live", () -> x.turn(1, 1, 2, 3));
-        CHECK.noState("a witness who does not live", () -> x.turn(2, 0, 6, 1));
     }
 
     private static void witnessesOfTurns() {
@@ -159,8 +105,6 @@ public final class PersonsTest {
         x.pass(30);
         CHECK.due("the new faith", 1, x.faith(0, 5060));
         CHECK.noState("what is taken", () -> x.recant(0));
-        CHECK.noIndex("person 7", () -> x.recant(7));
-        CHECK.noIndex("person -1", () -> x.recant(-1));
     }
 
     private static void childrenFollow() {
@@ -332,18 +276,5 @@ public final class PersonsTest {
         CHECK.due("in whatever way it took it", 0, x.faith(child, 9990));
         CHECK.due("now", 0, x.faith(child, 10030));
         CHECK.due("the father stays", 1, x.faith(0, 10030));
-    }
-
-    private static void faithErrors() {
-        Milletcourt x = Check.empire(1);
-        x.pass(5);
-        int man = Check.man(x, 0);
-        x.pass(2);
-        CHECK.due("the day of birth", 0, x.faith(man, 5));
-        CHECK.due("today", 0, x.faith(man, 7));
-        CHECK.noArgument("ahead of birth", () -> x.faith(man, 4));
-        CHECK.noArgument("tomorrow", () -> x.faith(man, 8));
-        CHECK.noIndex("person 1", () -> x.faith(1, 9));
-        CHECK.noIndex("person -1", () -> x.faith(-1, 5));
     }
 }

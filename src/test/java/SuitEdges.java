@@ -344,6 +344,7 @@ final class SuitEdges {
         check.noState("one that is won", () -> won(0), x -> x.appear(0));
         check.noState("one that is lost", () -> lost(), x -> x.appear(0));
         check.noState("a dead defendant", () -> withDead(seised(), 1), x -> x.appear(0));
+        check.noState("a dead defendant before another court", () -> withDead(beforeAnotherCourt(), 3), x -> x.appear(2));
         check.due("a dead plaintiff", false, withDead(seised(), 0).appear(0));
     }
 
@@ -598,10 +599,17 @@ final class SuitEdges {
 
     private void executedIfBothLive() {
         check.says("what the defendant has, up to what is owed yet, perhaps nothing, goes to the plaintiff, if both live.");
-        check.noState("a dead plaintiff", () -> withDead(won(100), 0), x -> x.execute(0));
-        check.noState("a dead defendant", () -> withDead(won(100), 1), x -> x.execute(0));
+        check.noState("a dead plaintiff", () -> withDead(wonWithMore(), 0), x -> x.execute(0));
+        check.noState("a dead defendant", () -> withDead(wonWithMore(), 1), x -> x.execute(0));
         check.noState("both dead", () -> withDead(withDead(won(100), 1), 0), x -> x.execute(0));
         check.due("what is owed stays", 300, withDead(won(100), 1).ofSuit(0, 3));
+    }
+
+    /** There is more to execute. */
+    private static Milletcourt wonWithMore() {
+        Milletcourt x = won(100);
+        x.goods(1, 50);
+        return x;
     }
 
     private void executeRefuses() {

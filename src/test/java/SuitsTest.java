@@ -4,30 +4,22 @@ public final class SuitsTest {
 
     public static void main(String[] args) {
         suits();
-        suitErrors();
-        suitLimit();
         firstSeised();
         whoCanJudge();
         asToldUntilTheSuit();
         appearing();
-        appearErrors();
         witnesses();
-        witnessErrors();
         weights();
         weightsOfTheDay();
         deadWitnesses();
-        judgeErrors();
         judgments();
         appeals();
         appealsTurnedToWon();
         appealsTurnedToLost();
         givingBack();
         givingBackToTheDead();
-        appealErrors();
         executions();
-        executeErrors();
         winning();
-        questions();
         CHECK.end();
     }
 
@@ -60,32 +52,6 @@ public final class SuitsTest {
         CHECK.due("without witnesses", 0, x.ofSuit(1, 2));
         CHECK.due("nothing is owed", 0, x.ofSuit(1, 3));
         CHECK.due("without a judgment", -1, x.ofSuit(1, 4));
-    }
-
-    private static void suitErrors() {
-        Milletcourt x = grown();
-        x.dies(7);
-        CHECK.noIndex("plaintiff 12", () -> x.sue(12, 1, 0, 0));
-        CHECK.noIndex("defendant -1", () -> x.sue(1, -1, 0, 0));
-        CHECK.noIndex("court 2", () -> x.sue(1, 1, 2, 0));
-        CHECK.noIndex("court -2", () -> x.sue(1, 2, -2, 5));
-        CHECK.noArgument("both the same", () -> x.sue(7, 7, 0, 5));
-        CHECK.noArgument("0 cents", () -> x.sue(7, 1, 0, 0));
-        CHECK.noArgument("1000001 cents", () -> x.sue(1, 7, 0, 1000001));
-        CHECK.noState("a dead plaintiff", () -> x.sue(7, 1, 0, 5));
-        CHECK.noState("a dead defendant", () -> x.sue(1, 7, 0, 5));
-        int child = Check.man(x, 0);
-        CHECK.due("a minor may sue", 0, x.sue(child, 1, 0, 5));
-    }
-
-    private static void suitLimit() {
-        Milletcourt x = grown();
-        for (int i = 0; i < 20; i++) {
-            CHECK.due("suit " + i, i, x.sue(0, 1, 0, 5));
-        }
-        CHECK.due("a void one counts", Milletcourt.VOID, x.ofSuit(19, 0));
-        CHECK.noState("the 21st", () -> x.sue(2, 3, 0, 5));
-        CHECK.noArgument("the 21st, out of range", () -> x.sue(2, 2, 0, 5));
     }
 
     private static void firstSeised() {
@@ -156,23 +122,6 @@ public final class SuitsTest {
         CHECK.due("lost", Milletcourt.LOST, x.ofSuit(0, 0));
     }
 
-    private static void appearErrors() {
-        Milletcourt x = grown();
-        CHECK.noIndex("suit 0", () -> x.appear(0));
-        x.sue(0, 1, 1, 5);
-        x.sue(1, 0, 1, 5);
-        x.sue(2, 3, 1, 5);
-        x.sue(4, 5, 0, 5);
-        CHECK.noIndex("suit -1", () -> x.appear(-1));
-        CHECK.noState("a void one", () -> x.appear(1));
-        x.dies(3);
-        CHECK.noState("a dead defendant", () -> x.appear(2));
-        x.judge(3);
-        CHECK.noState("a judged one", () -> x.appear(3));
-        x.dies(0);
-        CHECK.due("a dead plaintiff", true, x.appear(0));
-    }
-
     private static void witnesses() {
         Milletcourt x = grown();
         x.sue(0, 1, 0, 5);
@@ -182,32 +131,6 @@ public final class SuitsTest {
         CHECK.due("how many", 3, x.ofSuit(0, 2));
         x.sue(2, 1, 0, 5);
         CHECK.due("in another suit", 1, x.testify(1, 9, true));
-    }
-
-    private static void witnessErrors() {
-        Milletcourt x = grown();
-        int child = Check.man(x, 0);
-        CHECK.noIndex("suit 0", () -> x.testify(0, 2, true));
-        x.sue(0, 1, 0, 5);
-        x.sue(1, 0, 0, 5);
-        CHECK.noIndex("suit -1", () -> x.testify(-1, 2, true));
-        CHECK.noIndex("person 13", () -> x.testify(1, 13, true));
-        CHECK.noIndex("person -1", () -> x.testify(1, -1, true));
-        CHECK.noState("in a void suit", () -> x.testify(1, 2, true));
-        CHECK.noState("the plaintiff", () -> x.testify(0, 0, true));
-        CHECK.noState("the defendant", () -> x.testify(0, 1, false));
-        CHECK.noState("a minor", () -> x.testify(0, child, true));
-        x.dies(7);
-        CHECK.noState("the dead", () -> x.testify(0, 7, true));
-        x.testify(0, 2, true);
-        CHECK.noState("twice", () -> x.testify(0, 2, true));
-        CHECK.noState("twice, for the other", () -> x.testify(0, 2, false));
-        Check.passDays(x, 4999);
-        CHECK.noState("a minor yet", () -> x.testify(0, child, true));
-        x.pass(1);
-        CHECK.due("grown", 2, x.testify(0, child, true));
-        x.judge(0);
-        CHECK.noState("in a judged suit", () -> x.testify(0, 3, true));
     }
 
     private static void weights() {
@@ -256,20 +179,6 @@ public final class SuitsTest {
         x.dies(1);
         CHECK.due("both dead", true, x.judge(0));
         CHECK.due("owed", 400, x.ofSuit(0, 3));
-    }
-
-    private static void judgeErrors() {
-        Milletcourt x = grown();
-        CHECK.noIndex("suit 0", () -> x.judge(0));
-        x.sue(0, 1, 1, 5);
-        x.sue(1, 0, 0, 5);
-        x.sue(2, 3, 0, 5);
-        CHECK.noIndex("suit -1", () -> x.judge(-1));
-        CHECK.noState("it cannot judge it", () -> x.judge(0));
-        CHECK.noState("a void one", () -> x.judge(1));
-        x.judge(2);
-        CHECK.noState("a judged one", () -> x.judge(2));
-        CHECK.due("the day of the judgment stays", 5000, x.ofSuit(2, 4));
     }
 
     private static void judgments() {
@@ -385,22 +294,6 @@ public final class SuitsTest {
         CHECK.due("nothing comes back", 0, y.ofPerson(1, 0));
     }
 
-    private static void appealErrors() {
-        Milletcourt x = sued();
-        CHECK.noIndex("suit 1", () -> x.appeal(1));
-        CHECK.noIndex("suit -1", () -> x.appeal(-1));
-        CHECK.noState("a seised one", () -> x.appeal(0));
-        x.sue(0, 1, 0, 5);
-        CHECK.noState("a void one", () -> x.appeal(1));
-        x.judge(0);
-        x.pass(61);
-        CHECK.noState("61 days behind", () -> x.appeal(0));
-        x.sue(4, 5, -1, 5);
-        x.appear(2);
-        x.judge(2);
-        CHECK.noState("judged by the crown", () -> x.appeal(2));
-    }
-
     private static void executions() {
         Milletcourt x = sued();
         x.judge(0);
@@ -417,25 +310,6 @@ public final class SuitsTest {
         CHECK.due("won as before", Milletcourt.WON, x.ofSuit(0, 0));
     }
 
-    private static void executeErrors() {
-        Milletcourt x = sued();
-        CHECK.noIndex("suit 1", () -> x.execute(1));
-        CHECK.noIndex("suit -1", () -> x.execute(-1));
-        CHECK.noState("a seised one", () -> x.execute(0));
-        x.sue(0, 1, 0, 5);
-        CHECK.noState("a void one", () -> x.execute(1));
-        x.judge(0);
-        x.sue(4, 5, 0, 5);
-        x.judge(2);
-        CHECK.noState("a lost one", () -> x.execute(2));
-        Milletcourt y = sued();
-        y.judge(0);
-        x.dies(0);
-        y.dies(1);
-        CHECK.noState("a dead plaintiff", () -> x.execute(0));
-        CHECK.noState("a dead defendant", () -> y.execute(0));
-    }
-
     private static void winning() {
         Milletcourt x = sued();
         x.decree(1, 6, 2);
@@ -449,18 +323,5 @@ public final class SuitsTest {
         x.decree(0, 6, 0);
         CHECK.due("today, behind the judgment", false, x.wins(0, 0));
         CHECK.due("it stays won", Milletcourt.WON, x.ofSuit(0, 0));
-        CHECK.noIndex("suit 2", () -> x.wins(2, 0));
-        CHECK.noIndex("suit -1", () -> x.wins(-1, 0));
-        CHECK.noIndex("court 2", () -> x.wins(0, 2));
-        CHECK.noIndex("court -2", () -> x.wins(0, -2));
-    }
-
-    private static void questions() {
-        Milletcourt x = grown();
-        CHECK.noIndex("suit 0", () -> x.ofSuit(0, 9));
-        x.sue(0, 1, 0, 5);
-        CHECK.noIndex("suit -1", () -> x.ofSuit(-1, 0));
-        CHECK.noArgument("what -1", () -> x.ofSuit(0, -1));
-        CHECK.noArgument("what 5", () -> x.ofSuit(0, 5));
     }
 }
